@@ -4,13 +4,23 @@ import java.util.function.LongSupplier;
 final class Due {
     private int asked = 0;
     private int wrong = 0;
+    private String sentence = "";
 
     void is(String call, long got, long want) {
         asked++;
         if (got != want) {
             wrong++;
-            System.out.println(call + " answered " + got + ", due is " + want);
+            System.out.println(sentence + call + " answered " + got + ", due is " + want);
         }
+    }
+
+    /** A test of its own for one sentence of the document, which is told with all that is not as due there. */
+    void sentence(String told, Runnable test) {
+        int before = asked;
+        sentence = "[" + told + "] ";
+        test.run();
+        is("answers asked for: 1 at least", Math.min(1, asked - before), 1);
+        sentence = "";
     }
 
     /** The call is refused as told, and all that can be told of the object stays as it was. */
@@ -32,9 +42,22 @@ final class Due {
         }
     }
 
+    void comesOfIs(String leaf, int minute, int... row) {
+        BlotLand x = leaf(leaf);
+        for (int cell = 0; cell < row.length; cell++) {
+            is(leaf + ": comes(" + cell + ", " + minute + ")", x.comes(cell, minute), row[cell]);
+        }
+    }
+
     static void type(BlotLand x, String text) {
         for (int i = 0; i < text.length(); i++) {
             x.letter(text.charAt(i));
+        }
+    }
+
+    static void evenings(BlotLand x, int many, int minute) {
+        for (int i = 0; i < many; i++) {
+            x.evening(minute);
         }
     }
 

@@ -54,26 +54,21 @@ public final class LandTest {
     }
 
     private static void comes() {
-        comesIs("s437", 0, 0, 0, 0, 7, 7, 7, 0, 0, 0, 0);
-        comesIs("s437", 2, 0, 0, 0, 5, 5, 5, 0, 0, 0, 0);
-        comesIs("b437", 0, 0, 0, 3, 7, 7, 7, 3, 0, 0, 0);
-        comesIs("b438", 0, 0, 0, 4, 8, 8, 8, 4, 0, 0, 0);
-        comesIs("b019", 0, 0, 0, 0, 0, 0, 0, 0, 0, 4, 9);
-        comesIs("b919", 0, 9, 4, 0, 0, 0, 0, 0, 0, 0, 0);
-        comesIs("b859", 0, 9, 9, 4, 0, 0, 0, 0, 0, 0, 0);
-        comesIs("b059", 0, 0, 0, 0, 0, 4, 9, 9, 9, 9, 9);
-        comesIs("b511", 0, 0, 0, 0, 0, 1, 0, 0, 0, 0, 0);
-        comesIs("t511", 0, 0, 0, 0, 2, 4, 2, 0, 0, 0, 0);
-        comesIs("t511", 3, 0, 0, 0, 0, 1, 0, 0, 0, 0, 0);
-        comesIs("t511", 4, 0, 0, 0, 0, 0, 0, 0, 0, 0, 0);
-        comesIs("q859", 5, 7, 7, 0, 0, 0, 0, 0, 0, 0, 0);
-        comesIs("f029", 1, 0, 0, 0, 0, 0, 0, 0, 0, 6, 6);
-        comesIs("s019", 20, 0, 0, 0, 0, 0, 0, 0, 0, 0, 0);
-    }
-
-    private static void comesIs(String text, int minute, int... row) {
-        BlotLand x = Due.leaf(text);
-        DUE.comesIs(x, minute, row);
+        DUE.comesOfIs("s437", 0, 0, 0, 0, 7, 7, 7, 0, 0, 0, 0);
+        DUE.comesOfIs("s437", 2, 0, 0, 0, 5, 5, 5, 0, 0, 0, 0);
+        DUE.comesOfIs("b437", 0, 0, 0, 3, 7, 7, 7, 3, 0, 0, 0);
+        DUE.comesOfIs("b438", 0, 0, 0, 4, 8, 8, 8, 4, 0, 0, 0);
+        DUE.comesOfIs("b019", 0, 0, 0, 0, 0, 0, 0, 0, 0, 4, 9);
+        DUE.comesOfIs("b919", 0, 9, 4, 0, 0, 0, 0, 0, 0, 0, 0);
+        DUE.comesOfIs("b859", 0, 9, 9, 4, 0, 0, 0, 0, 0, 0, 0);
+        DUE.comesOfIs("b059", 0, 0, 0, 0, 0, 4, 9, 9, 9, 9, 9);
+        DUE.comesOfIs("b511", 0, 0, 0, 0, 0, 1, 0, 0, 0, 0, 0);
+        DUE.comesOfIs("t511", 0, 0, 0, 0, 2, 4, 2, 0, 0, 0, 0);
+        DUE.comesOfIs("t511", 3, 0, 0, 0, 0, 1, 0, 0, 0, 0, 0);
+        DUE.comesOfIs("t511", 4, 0, 0, 0, 0, 0, 0, 0, 0, 0, 0);
+        DUE.comesOfIs("q859", 5, 7, 7, 0, 0, 0, 0, 0, 0, 0, 0);
+        DUE.comesOfIs("f029", 1, 0, 0, 0, 0, 0, 0, 0, 0, 6, 6);
+        DUE.comesOfIs("s019", 20, 0, 0, 0, 0, 0, 0, 0, 0, 0, 0);
     }
 
     private static void comesOfSeveral() {
