@@ -13,6 +13,7 @@ public final class EdgesOfAllTest {
         countsOfTheLand();
         digests();
         digestWraps();
+        askedAlone();
         DUE.end("EdgesOfAllTest");
     }
 
@@ -169,6 +170,20 @@ public final class EdgesOfAllTest {
             x.restore();
             DUE.is("found()", x.found(9, 0, 3), BlotLand.FULL);
             DUE.is("about(0, 5)", x.about(0, 5), 4);
+        });
+        DUE.sentence("22 what is FOUND: how much, where and when", () -> {
+            BlotLand x = Due.leaf("b515");
+            x.found(4, 3, 0);
+            x.image();
+            x.forget();
+            x.found(4, 1, 3);
+            DUE.is("PRESS 4: about(0, 5)", x.about(0, 5), 8);
+            x.restore();
+            DUE.is("at MINUTE 3 none: about(0, 5)", x.about(0, 5), 1 + 2 + 4);
+            x.forget();
+            x.found(5, 3, 0);
+            x.restore();
+            DUE.is("not beside it: about(0, 5)", x.about(0, 5), 1 + 2 + 4);
         });
     }
 
@@ -337,6 +352,28 @@ public final class EdgesOfAllTest {
     }
 
     private static void digestWraps() {
+        DUE.sentence("24 at just these MINUTES, for just so much", () -> {
+            // Faint ones that LOOK can tell, or can't, at MINUTE 6 and just beside it; rows of 4, 5 and 6; and one
+            // that is not there yet at MINUTE 4, but at 5.
+            BlotLand x = Due.leaf("q015,q216,s515,f719");
+            x.evening(2);
+            x.write(3, 9, 1, 9);
+            x.write(0, 9, 1, 9);
+            DUE.is("look(3, 5)", x.look(3, 5), 2);
+            DUE.is("look(3, 6)", x.look(3, 6), 0);
+            DUE.is("look(4, 6)", x.look(4, 6), 0);
+            DUE.is("toSand(4, 1023, 0)", x.toSand(4, 1023, 0), 5);
+            DUE.is("toSand(5, 1023, 0)", x.toSand(5, 1023, 0), 6);
+            DUE.is("hills(4)", x.hills(4), 3);
+            DUE.is("hills(5)", x.hills(5), 2);
+            DUE.is("hills(6)", x.hills(6), 1);
+            DUE.is("digest()", x.digest(), told(x, 0).longValue());
+            BlotLand later = Due.leaf("s011,s011,s011,s011");
+            later.write(3, 4, 1, 9);
+            DUE.is("look(4, 6)", later.look(4, 6), 5);
+            DUE.is("look(4, 7)", later.look(4, 7), 0);
+            DUE.is("digest()", later.digest(), told(later, 0).longValue());
+        });
         DUE.sentence("24 as longs, wrapping", () -> {
             BlotLand x = changed();
             BigInteger told = told(x, 0);
@@ -349,6 +386,37 @@ public final class EdgesOfAllTest {
             }
             DUE.is("seven letters: digest()", page.digest(), sum.longValue());
         });
+    }
+
+    private static void askedAlone() {
+        DUE.sentence("what is asked alone, or would be, changes nothing", () -> {
+            BlotLand x = keptAndFull();
+            x.fault();
+            for (int k = 0; k <= 5; k++) {
+                x.about(k, 5);
+                x.as(k, 1);
+                x.wet(k, k);
+                x.look(k, 6);
+                x.ink(k);
+                x.comes(k, 20);
+                x.hills(k);
+                x.close(k, 0);
+                x.toSand(k, 1023, 1);
+                x.years(60, k, k % 3);
+                x.count(k);
+            }
+            x.digest();
+            DUE.is("all is as it was", Snapshot.of(x).equals(Snapshot.of(keptAndFull())) ? 1 : 0, 1);
+        });
+    }
+
+    private static BlotLand keptAndFull() {
+        BlotLand x = full();
+        x.image();
+        x.sand(0, false);
+        x.sand(5, false);
+        x.evening(5);
+        return x;
     }
 
     /** The digest before it wraps, by the other calls, with so many of the letters "~" and " " in turn on THE PAGE. */

@@ -204,6 +204,10 @@ public final class EdgesOfWouldBeTest {
             x.found(9, 0, 9);
             DUE.is("about(0, 5)", x.about(0, 5), 256);
             DUE.is("look(0, 0)", x.look(0, 0), 0);
+            x.forget();
+            x.found(9, 0, 1);
+            DUE.is("about(0, 5)", x.about(0, 5), 1);
+            DUE.is("look(0, 0)", x.look(0, 0), 0);
         });
     }
 
