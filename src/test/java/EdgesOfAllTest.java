@@ -201,6 +201,22 @@ public final class EdgesOfAllTest {
             DUE.is("leaf()", x.leaf(), BlotLand.STATE);
             DUE.is("restore()", x.restore(), 1);
         });
+        DUE.sentence("22 no STATE: it was gone back to once", () -> {
+            BlotLand x = changed();
+            x.image();
+            x.evening(0);
+            for (int i = 1; i <= 5; i++) {
+                DUE.is("restore()", x.restore(), 1);
+            }
+        });
+        DUE.sentence("22 STATE: a LEAF was read since, though it was gone back to ahead of that", () -> {
+            BlotLand x = changed();
+            x.image();
+            x.restore();
+            Due.type(x, "q011");
+            x.leaf();
+            DUE.is("restore()", x.restore(), BlotLand.STATE);
+        });
         DUE.sentence("22 no STATE: an IMAGE of the LEAF that was read since", () -> {
             BlotLand x = readSince("q011");
             DUE.is("image()", x.image(), 0);
